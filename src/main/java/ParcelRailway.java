@@ -1388,35 +1388,38 @@ public final class ParcelRailway {
                 case REQUEST:
                     name = takeNewName();
                     break;
+                case TRACK:
+                    first = takeStation();
+                    second = takeSecondStation();
+                    number = takeNumber(1, TRAVEL_LIMIT);
+                    break;
                 case TRAIN:
                     number = takeNumber(1, CAPACITY_LIMIT);
                     takeRoute();
+                    break;
+                case PARCEL:
+                    first = takeStation();
+                    second = takeSecondStation();
+                    number = takeNumber(1, PRIORITY_LIMIT);
                     break;
                 case INSPECT:
                     first = takeStation();
                     number = takeNumber(0, INSPECTION_LIMIT);
                     break;
+                case CLOSE:
+                    first = takeStation();
+                    second = takeSecondStation();
+                    break;
                 case RUN:
                     number = takeNumber(0, PASS_LIMIT);
                     break;
                 default:
-                    readPair();
                     break;
             }
             if (tokens.kind != Tokens.SEMICOLON) {
                 fail(1);
             }
             tokens.advance();
-        }
-
-        private void readPair() {
-            first = takeStation();
-            second = takeSecondStation();
-            if (keyword == TRACK) {
-                number = takeNumber(1, TRAVEL_LIMIT);
-            } else if (keyword == PARCEL) {
-                number = takeNumber(1, PRIORITY_LIMIT);
-            }
         }
 
         /** Executes the statement that was read and returns the minutes that pass after it. */
