@@ -86,6 +86,15 @@ public final class FutureTest {
         Check.is(48, "minutesToStop at b of the short train", 11, () -> z.minutesToStop(1));
     }
 
+    private static void stopInMinute120() {
+        // Every 22 minutes a parcel passes c on its way to b; only the sixth one, in minute 120, is for c.
+        ParcelRailway x = Check.loaded("stop a;request c;stop b;track a c 9;track c b 1;train 1 a c b;"
+                + "parcel a b 9;".repeat(5) + "parcel a c 1;");
+        Check.is(48, "minutesToStop in minute 120", 120, () -> x.minutesToStop(1));
+        x.pass(60);
+        Check.is(48, "minutesToStop 60 minutes later", 60, () -> x.minutesToStop(1));
+    }
+
     private static void places() {
         ParcelRailway x = Check.loaded(SLOW);
         Check.is(49, "trainStationAfter(0, 0)", 0, () -> x.trainStationAfter(0, 0));
@@ -180,6 +189,7 @@ public final class FutureTest {
         deliveries();
         stops();
         stopEdge();
+        stopInMinute120();
         places();
         closures();
         worst();

@@ -73,6 +73,10 @@ public final class InputTest {
         Check.refused("stops a;", 1, 0);
         Check.refused("sto a;", 1, 0);
         Check.refused("a;", 1, 0);
+        for (String word : new String[] {"xtop", "xequest", "xrack", "xrain", "xarcel", "xnspect", "xlose", "xun",
+            "stox", "requesx", "tracx", "traix", "parcex", "inspecx", "closx", "rux", "st", "reques", "runs", "trains"}) {
+            Check.refused("stop a;" + word, 1, 7);
+        }
         Check.refused("7;", 1, 0);
         Check.refused("\tstop a;", 1, 0);
         Check.refused("stop\ra;", 1, 4);
@@ -219,6 +223,67 @@ public final class InputTest {
         Check.is(4, "parcelTrain(0)", 0, () -> x.parcelTrain(0));
     }
 
+    private static void cutOff(String text, int length, int code, int position) {
+        ParcelRailway x = new ParcelRailway();
+        Check.append(x, text);
+        Check.is(3, "truncateInput(" + length + ")", length, () -> x.truncateInput(length));
+        Check.fails(4, "load of a text that was cut off", IllegalArgumentException.class, x::load);
+        Check.is(5, "errorCode of a text that was cut off", code, x::errorCode);
+        Check.is(6, "errorPosition of a text that was cut off", position, x::errorPosition);
+    }
+
+    private static void cutTextsAreForgotten() {
+        cutOff("stop abcde;", 9, 1, 9);
+        cutOff("stop abcd;", 7, 1, 7);
+        cutOff("stop a;run 61;", 12, 1, 12);
+        cutOff("stop a;run 61;", 13, 2, 11);
+        cutOff("stop a;", 6, 1, 6);
+        cutOff("stop a;", 4, 1, 4);
+        cutOff("stop a;", 3, 1, 0);
+        ParcelRailway x = new ParcelRailway();
+        Check.append(x, "stop abcdefgh;stop b;");
+        x.truncateInput(6);
+        Check.append(x, ";");
+        Check.is(4, "load of a text that was cut off and went on", 1, x::load);
+        Check.append(x, "stop a;stop b;");
+        x.truncateInput(0);
+        Check.is(4, "load of a text that was cut off wholly", 0, x::load);
+    }
+
+    private static void nothingIsLeftBehind() {
+        ParcelRailway x = Check.loaded("stop a;stop b;stop c;track a b 1;track b c 1;inspect a 1;inspect b 2;inspect c 3;"
+                + "train 1 a b;train 1 b c;parcel a c 9;close a b;run 5;");
+        x.setTrackOpen(0, 1, true);
+        x.pass(9);
+        Check.load(x, "stop p;stop q;request r;inspect p 4;");
+        Check.is(18, "distance without tracks", -1, () -> x.distance(0, 1));
+        Check.is(18, "distance without tracks", -1, () -> x.distance(2, 1));
+        Check.is(13, "inspectionTime(0) of the text", 4, () -> x.inspectionTime(0));
+        Check.is(13, "inspectionTime(1) of a new station", 0, () -> x.inspectionTime(1));
+        Check.is(13, "inspectionTime(2) of a new station", 0, () -> x.inspectionTime(2));
+        for (String start : new String[] {"run 7;", ""}) {
+            Check.load(x, "stop a;stop b;stop c;track a b 1;track b c 1;train 1 a b;train 1 b c;parcel a c 9;"
+                    + "inspect b 5;close b a;" + start);
+            x.setTrackOpen(1, 0, true);
+            x.pass(9);
+            Check.load(x, "stop a;stop b;track a b 4;train 1 b a;train 2 a b;parcel a b 1;");
+            for (int train = 0; train < 2; train++) {
+                int t = train;
+                Check.is(28, "delay of a new train", 0, () -> x.delay(t));
+                Check.is(29, "stopsMade of a new train", 0, () -> x.stopsMade(t));
+                Check.is(30, "stopsPassed of a new train", 0, () -> x.stopsPassed(t));
+                Check.is(27, "minutesToNext of a new train", -1, () -> x.minutesToNext(t));
+                Check.is(24, "trainStation of a new train", 1 - t, () -> x.trainStation(t));
+                Check.holds(26, "isForward of a new train", true, () -> x.isForward(t));
+            }
+            Check.is(37, "transfers of a new parcel", 0, () -> x.transfers(0));
+            Check.is(34, "parcelStation of a new parcel", 0, () -> x.parcelStation(0));
+            Check.holds(38, "isHeld of a new parcel", false, () -> x.isHeld(0));
+            Check.is(39, "deliveryClock of a new parcel", -1, () -> x.deliveryClock(0));
+            Check.is(43, "loadingBalance", 0, x::loadingBalance);
+        }
+    }
+
     public static void main(String[] args) {
         buffer();
         byteOrder();
@@ -230,6 +295,8 @@ public final class InputTest {
         limits();
         aWholeLoad();
         order();
+        cutTextsAreForgotten();
+        nothingIsLeftBehind();
         Check.finish("InputTest");
     }
 }

@@ -178,6 +178,25 @@ public final class MinuteTest {
         Check.is(40, "loadingObstacle of a delivered parcel", 1, () -> x.loadingObstacle(0, 4));
     }
 
+    private static void orderFromTheFirstNumber() {
+        ParcelRailway x = Check.loaded("stop a;stop b;track a b 1;train 2 a b;parcel a b 9;parcel a b 5;parcel a b 7;run 0;");
+        int[] order = {0, 2, 1};
+        int[] obstacles = {0, 4, 0};
+        for (int i = 0; i < 3; i++) {
+            int index = i;
+            Check.is(15, "waitingParcel(0, " + i + ")", order[i], () -> x.waitingParcel(0, index));
+            Check.is(40, "loadingObstacle(0, " + i + ")", obstacles[i], () -> x.loadingObstacle(0, index));
+        }
+    }
+
+    private static void heldAtTheFirstStation() {
+        ParcelRailway x = Check.loaded("stop b;stop a;stop c;track a b 1;track b c 1;train 1 a b;parcel a c 1;inspect b 3;run 2;");
+        Check.is(34, "parcelStation", 0, () -> x.parcelStation(0));
+        Check.holds(38, "isHeld at station 0", true, () -> x.isHeld(0));
+        x.pass(3);
+        Check.holds(38, "isHeld after the inspection", false, () -> x.isHeld(0));
+    }
+
     private static void dropStations() {
         // A ring: a-b 1, b-c 1, c-d 1, d-a 1; the train goes a b c only.
         String ring = "stop a;stop b;stop c;stop d;track a b 1;track b c 1;track c d 1;track d a 1;";
@@ -294,6 +313,8 @@ public final class MinuteTest {
         sameMinuteHandOver();
         transferToAnArrivingTrain();
         orderOfLoading();
+        orderFromTheFirstNumber();
+        heldAtTheFirstStation();
         dropStations();
         withoutDistance();
         everyStopAtTheStationCounts();

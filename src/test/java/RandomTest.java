@@ -227,6 +227,11 @@ public final class RandomTest {
                 right &= !near || call(method("loadingObstacle"), train, parcel);
             }
         }
+        for (int station = 0; station < model.stationCount(); station++) {
+            for (int index = model.waitingCount(station); index >= 0; index--) {
+                right &= call(method("waitingParcel"), station, index);
+            }
+        }
         return right;
     }
 
