@@ -60,6 +60,10 @@ final class Check {
         }
     }
 
+    static int checkedSoFar() {
+        return checked;
+    }
+
     static int wrongSoFar() {
         return wrong;
     }

@@ -3,33 +3,6 @@ public final class MemoryTest {
     private static final Class<IndexOutOfBoundsException> NO_INDEX = IndexOutOfBoundsException.class;
     private static final Class<IllegalStateException> BAD_STATE = IllegalStateException.class;
 
-    /** Everything that the state answers, as one text. */
-    private static String all(ParcelRailway x) {
-        StringBuilder text = new StringBuilder();
-        text.append(x.clock()).append(' ').append(x.loadingBalance()).append(' ').append(x.parcelBalance());
-        for (int s = 0; s < x.stationCount(); s++) {
-            text.append("\n s").append(x.isRequestStop(s)).append(x.inspectionTime(s)).append(x.minutesToStop(s));
-            for (int t = 0; t < x.stationCount(); t++) {
-                text.append(' ').append(x.travelTime(s, t)).append(x.isTrackOpen(s, t)).append(x.distance(s, t));
-            }
-        }
-        for (int t = 0; t < x.trainCount(); t++) {
-            text.append("\n t").append(x.capacity(t)).append(x.routeLength(t)).append(' ').append(x.trainStation(t));
-            text.append(' ').append(x.nextStation(t)).append(x.isForward(t)).append(x.minutesToNext(t));
-            text.append(' ').append(x.delay(t)).append(' ').append(x.stopsMade(t)).append(' ').append(x.stopsPassed(t));
-            for (int i = 0; i < x.routeLength(t); i++) {
-                text.append(' ').append(x.routeStation(t, i));
-            }
-        }
-        for (int p = 0; p < x.parcelCount(); p++) {
-            text.append("\n p").append(x.origin(p)).append(x.destination(p)).append(x.priority(p)).append(' ');
-            text.append(x.parcelStation(p)).append(' ').append(x.parcelTrain(p)).append(' ').append(x.dropStation(p));
-            text.append(' ').append(x.transfers(p)).append(x.isHeld(p)).append(x.deliveryClock(p));
-            text.append(' ').append(x.minutesToDelivery(p));
-        }
-        return text.append("\n w").append(x.worstClosure()).append(' ').append(x.trackCount()).toString();
-    }
-
     private static void slots() {
         ParcelRailway x = new ParcelRailway();
         for (int slot : new int[] {-1, 2, Integer.MIN_VALUE, Integer.MAX_VALUE}) {
@@ -38,7 +11,7 @@ public final class MemoryTest {
         }
         Check.fails(63, "restore of an empty slot", BAD_STATE, () -> x.restore(0));
         Check.fails(63, "restore of an empty slot", BAD_STATE, () -> x.restore(1));
-        String first = all(x);
+        String first = Snapshot.state(x);
         Check.is(62, "save(1)", 4, () -> x.save(1));
         Check.is(65, "save is not remembered", 0, x::undoDepth);
         Check.fails(63, "restore of the other slot", BAD_STATE, () -> x.restore(0));
@@ -47,29 +20,29 @@ public final class MemoryTest {
         x.setInspection(0, 7);
         x.withdraw(1);
         x.pass(3);
-        String later = all(x);
+        String later = Snapshot.state(x);
         Check.is(62, "save(0)", 9, () -> x.save(0));
         Check.is(63, "restore(1)", 4, () -> x.restore(1));
-        Check.same("the restored state", first, all(x));
+        Check.same("the restored state", first, Snapshot.state(x));
         x.pass(9);
         x.addParcel(0, 1, 1);
         Check.is(63, "restore(1) keeps its content", 4, () -> x.restore(1));
-        Check.same("the restored state", first, all(x));
+        Check.same("the restored state", first, Snapshot.state(x));
         Check.is(63, "restore(0)", 9, () -> x.restore(0));
-        Check.same("the restored state", later, all(x));
+        Check.same("the restored state", later, Snapshot.state(x));
         Check.is(65, "undoDepth", 8, x::undoDepth);
         Check.load(x, "stop a;run 3;");
-        String loaded = all(x);
+        String loaded = Snapshot.state(x);
         Check.is(63, "slots outlive load", 4, () -> x.restore(1));
-        Check.same("the restored state", first, all(x));
+        Check.same("the restored state", first, Snapshot.state(x));
         Check.is(64, "undo of restore", 7, x::undo);
-        Check.same("the state before restore", loaded, all(x));
+        Check.same("the state before restore", loaded, Snapshot.state(x));
         Check.is(62, "save discards the old content", 3, () -> x.save(1));
         Check.is(63, "restore(1)", 3, () -> x.restore(1));
-        Check.same("the restored state", loaded, all(x));
+        Check.same("the restored state", loaded, Snapshot.state(x));
         x.undo();
         x.undo();
-        Check.same("the state before load", later, all(x));
+        Check.same("the state before load", later, Snapshot.state(x));
         Check.is(63, "undo does not change the slots", 3, () -> x.restore(1));
     }
 
@@ -85,14 +58,14 @@ public final class MemoryTest {
         for (int i = 0; i < changes.length; i++) {
             int depth = i;
             Check.is(65, "undoDepth", depth, x::undoDepth);
-            before[i] = all(x);
+            before[i] = Snapshot.state(x);
             changes[i].run();
         }
         Check.is(65, "undoDepth", 8, x::undoDepth);
         for (int i = changes.length - 1; i >= 0; i--) {
             int left = i;
             Check.is(64, "undo", left, x::undo);
-            Check.same("the state before change " + i, before[i], all(x));
+            Check.same("the state before change " + i, before[i], Snapshot.state(x));
             Check.is(65, "undoDepth", left, x::undoDepth);
         }
         Check.fails(64, "undo of nothing", BAD_STATE, x::undo);
@@ -129,7 +102,7 @@ public final class MemoryTest {
     private static void refusedCallsAreNotRemembered() {
         ParcelRailway x = new ParcelRailway();
         x.pass(1);
-        String before = all(x);
+        String before = Snapshot.state(x);
         Check.fails(53, "pass(0)", IllegalArgumentException.class, () -> x.pass(0));
         Check.fails(54, "addParcel", IllegalArgumentException.class, () -> x.addParcel(0, 0, 1));
         Check.fails(55, "setTrackOpen", IllegalArgumentException.class, () -> x.setTrackOpen(0, 2, false) ? 1 : 0);
@@ -140,7 +113,7 @@ public final class MemoryTest {
         Check.append(x, "run 61;");
         Check.fails(4, "load", IllegalArgumentException.class, x::load);
         Check.is(65, "undoDepth", 1, x::undoDepth);
-        Check.same("the state after refusals", before, all(x));
+        Check.same("the state after refusals", before, Snapshot.state(x));
         x.undo();
         Check.is(5, "undo does not change the error code", 2, x::errorCode);
         Check.is(6, "undo does not change the error position", 4, x::errorPosition);
@@ -160,7 +133,7 @@ public final class MemoryTest {
     private static void questionsChangeNothing() {
         ParcelRailway x = new ParcelRailway();
         x.pass(1);
-        String before = all(x);
+        String before = Snapshot.state(x);
         x.minutesToDelivery(0);
         x.minutesToFinish();
         x.minutesToStop(0);
@@ -170,7 +143,7 @@ public final class MemoryTest {
         x.worstClosure();
         x.writeTrains();
         x.writeParcels();
-        Check.same("the state after questions", before, all(x));
+        Check.same("the state after questions", before, Snapshot.state(x));
         Check.is(65, "undoDepth", 1, x::undoDepth);
     }
 
