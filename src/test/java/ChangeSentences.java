@@ -264,6 +264,18 @@ final class ChangeSentences extends Sentences {
             is("deliveryClock(0) of one that was withdrawn away from its origin first", 2, () -> twice.deliveryClock(0));
             is("origin(0)", 1, () -> twice.origin(0));
             is("destination(0)", 0, () -> twice.destination(0));
+            // The parcel goes from a by b to d; the train brings it back to a as the tracks change.
+            ParcelRailway back = loaded("stop a;stop b;stop d;track a b 1;track b d 1;track a d 1;close a d;inspect a 9;"
+                    + "train 1 a b;parcel a d 1;run 2;");
+            back.setTrackOpen(1, 2, false);
+            back.setTrackOpen(0, 2, true);
+            back.pass(2);
+            is("transfers(0) of one that is back at its origin", 2, () -> back.transfers(0));
+            holds("isHeld(0)", true, () -> back.isHeld(0));
+            is("withdraw(0)", -1, () -> back.withdraw(0));
+            is("deliveryClock(0)", 4, () -> back.deliveryClock(0));
+            is("origin(0)", 0, () -> back.origin(0));
+            is("destination(0)", 2, () -> back.destination(0));
         });
         says("NONE if it is delivered by this call.", () -> {
             is("withdraw(0) at its origin", -1, () -> loaded(TWO + "parcel a b 1;").withdraw(0));

@@ -78,6 +78,15 @@ final class FutureSentences extends Sentences {
             is("minutesToStop(1) where the train passes first", 10, () -> passed.minutesToStop(1));
             ParcelRailway two = loaded("stop a;stop b;stop c;track a b 9;track b c 4;train 1 a b;train 1 c b;");
             is("minutesToStop(1) of the earlier one of two trains", 5, () -> two.minutesToStop(1));
+            // What an earlier question saw must not be taken for a stop.
+            ParcelRailway asked = loaded(SLOW);
+            is("minutesToStop(1)", 10, () -> asked.minutesToStop(1));
+            asked.setTrackOpen(0, 1, false);
+            is("minutesToStop(1) when the track is closed", -1, () -> asked.minutesToStop(1));
+            asked.setTrackOpen(0, 1, true);
+            asked.pass(10);
+            asked.undo();
+            is("minutesToStop(1) after the stop was undone", 10, () -> asked.minutesToStop(1));
         });
         says("NONE if none does within 120 minutes.", () -> {
             // The train comes past c in minutes 9, 37, 65, 93 and 121; the fifth parcel is the only one for c.
@@ -225,6 +234,8 @@ final class FutureSentences extends Sentences {
             is("worstClosure of a closed track where nothing is delivered anyway", 0,
                     () -> loaded(pair + "track a b 1;track c d 1;close a b;").worstClosure());
             is("worstClosure of closed tracks only", 0, () -> loaded(lines + "close a b;close c d;").worstClosure());
+            is("worstClosure of a closed track that would deliver if it was open", 0,
+                    () -> loaded(pair + "track a b 1;track c d 1;train 1 a b;parcel a b 1;close a b;").worstClosure());
             is("worstClosure: the closed track changes nothing", 1, () -> loaded(lines + "close a b;").worstClosure());
         });
         says("tracks are numbered from 0 in the order in which they were added;", () -> {

@@ -132,6 +132,49 @@ final class InputSentences extends Sentences {
         });
     }
 
+    /** No number of an earlier text may be left in the stations, trains and parcels of the next one. */
+    private static void nothingIsLeft() {
+        ParcelRailway x = loaded(StateSentences.BUSY);
+        Check.load(x, "stop a;stop b;stop c;track a b 9;train 3 b a;train 3 a b;train 3 b a b;parcel a b 1;parcel b a 1;"
+                + "parcel a b 1;parcel b a 1;");
+        for (int number = 0; number < 3; number++) {
+            int n = number;
+            is("inspectionTime(" + n + ")", 0, () -> x.inspectionTime(n));
+            holds("isRequestStop(" + n + ")", false, () -> x.isRequestStop(n));
+            is("delay(" + n + ")", 0, () -> x.delay(n));
+            is("stopsMade(" + n + ")", 0, () -> x.stopsMade(n));
+            is("stopsPassed(" + n + ")", 0, () -> x.stopsPassed(n));
+            is("minutesToNext(" + n + ")", -1, () -> x.minutesToNext(n));
+            is("trainStation(" + n + ")", (n + 1) % 2, () -> x.trainStation(n));
+            holds("isForward(" + n + ")", true, () -> x.isForward(n));
+            is("transfers(" + n + ")", 0, () -> x.transfers(n));
+            holds("isHeld(" + n + ")", false, () -> x.isHeld(n));
+            is("parcelTrain(" + n + ")", -1, () -> x.parcelTrain(n));
+            is("dropStation(" + n + ")", -1, () -> x.dropStation(n));
+            is("deliveryClock(" + n + ")", -1, () -> x.deliveryClock(n));
+            is("minutesToStop(" + n + ")", n == 2 ? -1 : 10, () -> x.minutesToStop(n));
+        }
+        is("distance(0, 2) in the next text", -1, () -> x.distance(0, 2));
+        is("loadingBalance", 0, x::loadingBalance);
+        Check.load(x, "stop a;stop b;");
+        is("distance(0, 1) without tracks", -1, () -> x.distance(0, 1));
+        // Parcel 0 is on the train to b and parcel 1 waits at b when the next text comes.
+        String line = "stop a;request b;stop c;track a b 1;track b c 1;train 2 a b c;";
+        Check.load(x, line + "parcel a b 1;parcel b a 1;run 1;");
+        same("the parcels", "#0 @b", Check.parcels(x));
+        Check.load(x, line + "run 2;");
+        is("stopsPassed(0) where an earlier text had parcels for b", 1, () -> x.stopsPassed(0));
+        is("waitingCount(0)", 0, () -> x.waitingCount(0));
+        is("waitingCount(1)", 0, () -> x.waitingCount(1));
+        is("carriedCount(0)", 0, () -> x.carriedCount(0));
+        is("deliveredCount", 0, x::deliveredCount);
+        is("parcelBalance", 0, x::parcelBalance);
+        Check.load(x, line + "parcel a b 1;parcel a b 1;run 2;");
+        is("meanDeliveryClock of two", 2.0, x::meanDeliveryClock);
+        Check.load(x, line + "run 6;parcel a b 1;run 2;");
+        is("meanDeliveryClock of the one in the next text", 8.0, x::meanDeliveryClock);
+    }
+
     private static void loading() {
         under("Promise 4");
         says("Parses the input buffer and replaces the state by the result.", () -> {
@@ -142,6 +185,7 @@ final class InputSentences extends Sentences {
             is("trainCount", 0, x::trainCount);
             is("parcelCount", 0, x::parcelCount);
             is("clock", 0, x::clock);
+            nothingIsLeft();
         });
         says("The input buffer is empty afterwards, also if the text has an error.", () -> {
             ParcelRailway x = new ParcelRailway();

@@ -108,6 +108,8 @@ final class MinuteSentences extends Sentences {
             same("the train", "a>b:0", Check.trains(x));
             is("minutesToNext(0)", 1, () -> x.minutesToNext(0));
             is("delay(0)", 0, () -> x.delay(0));
+            ParcelRailway shut = loaded(LINE + "train 1 a b;close a b;run 1;");
+            same("the train whose track is closed", "a:0", Check.trains(shut));
         });
         says("Otherwise it stays where it is, and its delay is incremented.", () -> {
             ParcelRailway x = loaded(LINE + "train 1 a b;close a b;");
@@ -131,6 +133,10 @@ final class MinuteSentences extends Sentences {
             is("minutesToNext(0) in minute 1", 1, () -> x.minutesToNext(0));
             x.pass(1);
             is("trainStation(0) in minute 2", 1, () -> x.trainStation(0));
+            ParcelRailway y = loaded("stop a;stop b;track a b 2;train 1 a b;run 2;");
+            is("trainStation(0) in minute 2 of a track of 2", -1, () -> y.trainStation(0));
+            y.pass(1);
+            is("trainStation(0) in minute 3", 1, () -> y.trainStation(0));
         });
         says("When it has traveled as many minutes as the travel time, it arrives at the next station of its route in the same"
                 + " minute.", () -> {
@@ -183,6 +189,9 @@ final class MinuteSentences extends Sentences {
             ParcelRailway two = loaded(LINE + "train 1 a b c;train 1 a b c;parcel a b 2;parcel a c 1;run 2;");
             is("stopsMade(0) with the parcel", 1, () -> two.stopsMade(0));
             is("stopsPassed(1): the other train carries the parcel", 1, () -> two.stopsPassed(1));
+            ParcelRailway second = loaded(LINE + "train 1 a b c;train 1 a b c;parcel a b 1;parcel a c 2;run 2;");
+            is("stopsPassed(0): the other train carries the parcel", 1, () -> second.stopsPassed(0));
+            is("stopsMade(1) with the parcel", 1, () -> second.stopsMade(1));
         });
         says("or if loading at this station now", () -> {
             ParcelRailway x = loaded(LINE + "train 1 a b c;parcel b c 1;run 2;");
@@ -215,6 +224,8 @@ final class MinuteSentences extends Sentences {
             ParcelRailway x = loaded(LINE + "train 1 a b c;run 2;");
             is("stopsPassed(0)", 1, () -> x.stopsPassed(0));
             is("stopsMade(0)", 0, () -> x.stopsMade(0));
+            ParcelRailway twelve = loaded(LINE + "train 1 a b c;" + "parcel b a 1;".repeat(12) + "run 2;");
+            is("stopsPassed(0) beside twelve parcels that go the other way", 1, () -> twelve.stopsPassed(0));
         });
         says("it departs at once in the same minute without loading;", () -> {
             ParcelRailway x = loaded(LINE + "train 1 a b c;parcel b a 1;run 2;");
@@ -254,6 +265,11 @@ final class MinuteSentences extends Sentences {
             same("the parcels at c", "= = = =", Check.parcels(x));
             ParcelRailway two = loaded(LINE + "train 1 a b c;train 1 a b;parcel a c 2;parcel a b 1;run 2;");
             same("the parcels of two trains", "#0 =", Check.parcels(two));
+            ParcelRailway apart = loaded("stop a;stop b;stop c;track a b 1;track c b 3;train 1 a b;train 1 c b;parcel a b 1;"
+                    + "parcel c b 1;run 2;");
+            same("the parcels of a train that has arrived and of one that has not", "= #1", Check.parcels(apart));
+            ParcelRailway further = loaded(LINE + "train 2 a b;parcel a c 1;parcel a b 1;run 2;");
+            same("a parcel that goes further and one that does not", "@b =", Check.parcels(further));
             ParcelRailway all = loaded(TWO + "train 4 a b;" + "parcel a b 1;".repeat(4) + "run 2;");
             same("four parcels", "= = = =", Check.parcels(all));
         });

@@ -6,6 +6,9 @@ final class QuestionSentences extends Sentences {
     private static final String NO_STATIONS = "Throws `IndexOutOfBoundsException` if one of the stations does not exist";
     private static final String NO_TRAIN = "Throws `IndexOutOfBoundsException` if the train does not exist";
     private static final String NO_PARCEL = "Throws `IndexOutOfBoundsException` if the parcel does not exist";
+    /** The parcel goes from a by b to d; the train brings it back to a if the track b d closes and the track a d opens. */
+    private static final String HELD_AT_ORIGIN = "stop a;stop b;stop d;track a b 1;track b d 1;track a d 1;close a d;"
+            + "inspect a 9;train 1 a b;parcel a d 1;run 2;";
     private static final int[] WRONG_INDEXES = {-1, 12, 1000, Integer.MIN_VALUE, Integer.MAX_VALUE};
 
     static void tell() {
@@ -136,6 +139,8 @@ final class QuestionSentences extends Sentences {
             is("distance(3, 0)", -1, () -> x.distance(3, 0));
             is("distance(0, 1)", 1, () -> x.distance(0, 1));
             is("distance(3, 3)", 0, () -> x.distance(3, 3));
+            Check.load(x, "stop a;stop b;");
+            is("distance(0, 1) of a text without tracks", -1, () -> x.distance(0, 1));
         });
         says(NO_STATIONS, () -> {
             Numbers.check(18, Numbers.Kind.STATION, "distance from", (x, n) -> x.distance(n, 0));
@@ -336,6 +341,12 @@ final class QuestionSentences extends Sentences {
             is("dropStation(0) on the other train", 2, () -> x.dropStation(0));
             x.setTrackOpen(1, 2, false);
             is("dropStation(0) though the track is closed", 2, () -> x.dropStation(0));
+            ParcelRailway kept = loaded("stop a;stop b;stop c;stop d;track a b 2;track b c 2;track c d 1;track b d 9;"
+                    + "train 1 a b c;parcel a d 1;run 1;");
+            kept.setTrackOpen(2, 3, false);
+            is("dropStation(0) though another station is nearer now", 2, () -> kept.dropStation(0));
+            kept.pass(2);
+            is("dropStation(0) at that station", 2, () -> kept.dropStation(0));
         });
         says("NONE if it is not on a train.", () -> {
             ParcelRailway x = loaded(trip);
@@ -367,11 +378,15 @@ final class QuestionSentences extends Sentences {
                 holds("isHeld(0) in minute " + minute, due, () -> x.isHeld(0));
                 x.pass(1);
             }
-            ParcelRailway withdrawn = loaded(LINE + "inspect b 9;train 1 a b;parcel a c 1;run 2;");
-            holds("isHeld(0) at b", true, () -> withdrawn.isHeld(0));
-            withdrawn.withdraw(0);
+            ParcelRailway withdrawn = loaded(HELD_AT_ORIGIN);
+            withdrawn.setTrackOpen(1, 2, false);
+            withdrawn.setTrackOpen(0, 2, true);
+            withdrawn.pass(2);
+            is("parcelStation(0): back at its origin, which is station 0", 0, () -> withdrawn.parcelStation(0));
+            holds("isHeld(0) there", true, () -> withdrawn.isHeld(0));
             withdrawn.withdraw(0);
             holds("isHeld(0) of a delivered parcel", false, () -> withdrawn.isHeld(0));
+            is("parcelStation(0) of a delivered parcel", -1, () -> withdrawn.parcelStation(0));
         });
     }
 
@@ -475,7 +490,7 @@ final class QuestionSentences extends Sentences {
         says("Returns the number of parcels minus those that wait, those on trains, as counted train by train, and those that are"
                 + " delivered;", () -> {
             is("parcelBalance without parcels", 0, () -> loaded("").parcelBalance());
-            is("parcelBalance of parcels that wait", 0, () -> loaded(TWO + "parcel a b 1;parcel b a 1;").parcelBalance());
+            is("parcelBalance of parcels that wait", 0, () -> loaded(TWO + "parcel a b 1;parcel a b 1;").parcelBalance());
             is("parcelBalance of parcels on a train", 0, () -> loaded(TWO + "train 2 a b;parcel a b 1;parcel a b 1;run 1;")
                     .parcelBalance());
             is("parcelBalance of delivered parcels", 0, () -> loaded(TWO + "train 2 a b;parcel a b 1;parcel a b 1;run 2;")
@@ -534,6 +549,12 @@ final class QuestionSentences extends Sentences {
             ParcelRailway zero = loaded("stop a;stop b;parcel a b 1;");
             zero.withdraw(0);
             is("meanDeliveryClock of a delivery at clock 0", 0.0, zero::meanDeliveryClock);
+            ParcelRailway twelve = loaded("stop a;stop b;" + "parcel a b 1;".repeat(12));
+            for (int parcel = 0; parcel < 12; parcel++) {
+                twelve.withdraw(parcel);
+                twelve.pass(1);
+            }
+            is("meanDeliveryClock of 0 to 11", 5.5, twelve::meanDeliveryClock);
         });
         says("0.0 if there are none.", () -> {
             is("meanDeliveryClock without parcels", 0.0, () -> loaded("run 9;").meanDeliveryClock());

@@ -51,6 +51,8 @@ final class RailwaySentences extends Sentences {
             fails("setInspection(0, 10)", BAD_ARGUMENT, () -> x.setInspection(0, 10));
             fails("setInspection(0, -1)", BAD_ARGUMENT, () -> x.setInspection(0, -1));
             is("inspectionTime(0) after refusals", 0, () -> x.inspectionTime(0));
+            is("setInspection(1, 0)", 9, () -> x.setInspection(1, 0));
+            is("setInspection(1, 9)", 0, () -> x.setInspection(1, 9));
         });
     }
 
@@ -115,6 +117,17 @@ final class RailwaySentences extends Sentences {
             ParcelRailway far = loaded("stop a;stop b;stop c;stop d;stop e;stop f;stop g;stop h;track h g 9;track g f 9;"
                     + "track f e 9;track e d 9;track d c 9;track c b 9;track b a 9;");
             is("the greatest distance", 63, () -> far.distance(0, 7));
+            String names = "abcdefgh";
+            for (int middle = 0; middle < 8; middle++) {
+                StringBuilder star = new StringBuilder("stop a;stop b;stop c;stop d;stop e;stop f;stop g;stop h;");
+                for (int s = 0; s < 8; s++) {
+                    star.append(s == middle ? "" : "track " + names.charAt(middle) + " " + names.charAt(s) + " 4;");
+                }
+                ParcelRailway y = loaded(star.toString());
+                int from = (middle + 1) % 8;
+                int to = (middle + 5) % 8;
+                is("distance over station " + middle, 8, () -> y.distance(from, to));
+            }
         });
         says("The distance of a station from itself is 0.", () -> {
             ParcelRailway x = loaded(TWO + "stop c;close a b;");
@@ -217,6 +230,8 @@ final class RailwaySentences extends Sentences {
             ParcelRailway forward = loaded(line + "train 1 b a;train 1 a b c;parcel b c 1;parcel a c 1;");
             is("obstacle of a parcel to c: beyond the end of the route b a", 3, () -> forward.loadingObstacle(0, 0));
             is("obstacle of a parcel to the last station of the route", 0, () -> forward.loadingObstacle(1, 1));
+            ParcelRailway away = loaded("stop a;stop b;stop c;track a b 1;track b c 9;track a c 3;train 1 a b c;parcel a c 1;run 1;");
+            is("dropStation at the last station though the next one is farther off", 2, () -> away.dropStation(0));
             ParcelRailway back = loaded(line + "train 2 a b c;run 4;parcel c a 1;parcel c b 1;");
             is("obstacle of a parcel to the first station, backward", 0, () -> back.loadingObstacle(0, 0));
             is("obstacle of a parcel to the middle station, backward", 0, () -> back.loadingObstacle(0, 1));

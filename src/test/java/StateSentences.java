@@ -5,6 +5,9 @@ import java.util.function.Consumer;
 /** Section 6 of the document: the state, undo, exceptions and the first state. */
 final class StateSentences extends Sentences {
     private static final String TWO = "stop a;stop b;track a b 1;";
+    /** Train 0 takes two parcels to c in minute 3 and passes b twice; train 1 waits for its track; train 2 goes to and fro. */
+    static final String BUSY = "stop a;request b;stop c;stop d;track a b 1;track b c 1;track c d 4;track a d 9;close a d;"
+            + "inspect c 6;train 2 a b c;train 1 a d;train 1 a b;parcel a d 8;parcel a c 3;parcel a d 1;run 4;parcel b c 2;run 1;";
 
     /** A call by name; what it answers does not matter. */
     private static final class Named {
@@ -87,7 +90,52 @@ final class StateSentences extends Sentences {
                 x.undo();
                 same("the state after undo of " + change.name, before, Snapshot.state(x));
             }
+            ParcelRailway x = loaded(BUSY);
+            checkBusy(x);
+            x.save(1);
+            Check.load(x, "request x;stop y;stop z;track y z 2;train 1 z y;train 3 y z y;parcel x z 1;parcel y z 1;run 5;");
+            x.undo();
+            checkBusy(x);
+            x.addParcel(2, 0, 9);
+            x.pass(60);
+            x.setTrackOpen(0, 1, false);
+            x.restore(1);
+            checkBusy(x);
         });
+    }
+
+    /** All numbers that a state holds, worked out by hand for BUSY. */
+    private static void checkBusy(ParcelRailway x) {
+        is("clock", 5, x::clock);
+        is("stationCount", 4, x::stationCount);
+        is("trackCount", 4, x::trackCount);
+        is("trainCount", 3, x::trainCount);
+        is("parcelCount", 4, x::parcelCount);
+        holds("isRequestStop(1)", true, () -> x.isRequestStop(1));
+        holds("isRequestStop(2)", false, () -> x.isRequestStop(2));
+        is("inspectionTime(2)", 6, () -> x.inspectionTime(2));
+        is("travelTime(2, 3)", 4, () -> x.travelTime(2, 3));
+        holds("isTrackOpen(0, 3)", false, () -> x.isTrackOpen(0, 3));
+        is("distance(0, 3)", 6, () -> x.distance(0, 3));
+        holds("isTrackOpen(0, 1)", true, () -> x.isTrackOpen(0, 1));
+        is("distance(0, 2)", 2, () -> x.distance(0, 2));
+        is("capacity(0)", 2, () -> x.capacity(0));
+        is("routeLength(1)", 2, () -> x.routeLength(1));
+        is("routeStation(0, 2)", 2, () -> x.routeStation(0, 2));
+        holds("isForward(0)", false, () -> x.isForward(0));
+        is("minutesToNext(0)", 1, () -> x.minutesToNext(0));
+        is("delay(1)", 5, () -> x.delay(1));
+        is("stopsMade(0)", 1, () -> x.stopsMade(0));
+        is("stopsPassed(0)", 2, () -> x.stopsPassed(0));
+        is("priority(0)", 8, () -> x.priority(0));
+        is("origin(3)", 1, () -> x.origin(3));
+        is("destination(3)", 2, () -> x.destination(3));
+        is("transfers(0)", 1, () -> x.transfers(0));
+        holds("isHeld(0)", true, () -> x.isHeld(0));
+        is("deliveryClock(1)", 3, () -> x.deliveryClock(1));
+        is("dropStation(2)", 3, () -> x.dropStation(2));
+        same("the trains", "b>a:0 a:1 a>b:0", Check.trains(x));
+        same("the parcels", "@c = #1 @b", Check.parcels(x));
     }
 
     private static void remembering() {
@@ -253,6 +301,8 @@ final class StateSentences extends Sentences {
             Check.append(full, "stop a;" + " ".repeat(593));
             fails("appendInput to a full buffer", BAD_STATE, () -> full.appendInput(0, 0, 0, 0, 0));
             is("truncateInput(600)", 600, () -> full.truncateInput(600));
+            fails("truncateInput(601)", BAD_ARGUMENT, () -> full.truncateInput(601));
+            fails("truncateInput(-1)", BAD_ARGUMENT, () -> full.truncateInput(-1));
             is("load of what was there before", 1, full::load);
             ParcelRailway none = new ParcelRailway();
             fails("undo of nothing", BAD_STATE, none::undo);

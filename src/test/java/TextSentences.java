@@ -52,6 +52,9 @@ final class TextSentences extends Sentences {
             refused("stop {;", 1, 5);
             refused("stop A;", 1, 5);
             refused("stop aZ;", 1, 6);
+            refused("stop a`;", 1, 6);
+            refused("stop a{;", 1, 6);
+            accepted("stop az;stop za;");
             refused("st op a;", 1, 0);
             same("a word next to a number", "a:0", Check.trains(loaded("stop a;stop b;track a b1;train1a b;")));
         });
@@ -112,14 +115,18 @@ final class TextSentences extends Sentences {
             is("trackCount", 2, x::trackCount);
             is("travelTime(1, 2)", 4, () -> x.travelTime(1, 2));
             is("travelTime(0, 2)", -1, () -> x.travelTime(0, 2));
+            ParcelRailway y = loaded("stop a;stop b;stop c;track a c 5;");
+            is("travelTime(0, 2)", 5, () -> y.travelTime(0, 2));
+            is("travelTime(0, 1)", -1, () -> y.travelTime(0, 1));
         });
         says("adds a train; the names are its route", () -> {
-            ParcelRailway x = loaded(TWO + "train 2 b a b;");
+            ParcelRailway x = loaded(TWO + "stop c;track b c 1;train 2 c b a b;");
             is("trainCount", 1, x::trainCount);
-            is("routeLength(0)", 3, () -> x.routeLength(0));
-            is("routeStation(0, 0)", 1, () -> x.routeStation(0, 0));
-            is("routeStation(0, 1)", 0, () -> x.routeStation(0, 1));
-            is("routeStation(0, 2)", 1, () -> x.routeStation(0, 2));
+            is("routeLength(0)", 4, () -> x.routeLength(0));
+            is("routeStation(0, 0)", 2, () -> x.routeStation(0, 0));
+            is("routeStation(0, 1)", 1, () -> x.routeStation(0, 1));
+            is("routeStation(0, 2)", 0, () -> x.routeStation(0, 2));
+            is("routeStation(0, 3)", 1, () -> x.routeStation(0, 3));
         });
         says("adds a parcel with an origin and a destination", () -> {
             ParcelRailway x = loaded(TWO + "parcel b a 3;");
@@ -228,6 +235,14 @@ final class TextSentences extends Sentences {
             refused(TWO + "close a b b;", 1, 36);
             refused("run a;", 1, 4);
             refused("run 5 5;", 1, 6);
+            for (String word : new String[] {"stop", "request", "track", "train", "parcel", "inspect", "close", "run"}) {
+                refused("stop a;" + word.substring(1), 1, 7);
+                refused("stop a;" + word.substring(0, word.length() - 1), 1, 7);
+                refused("stop a;x" + word.substring(1), 1, 7);
+                refused("stop a;" + word.substring(0, word.length() - 1) + "x", 1, 7);
+                refused("stop a;" + word + "s", 1, 7);
+                refused("stop a;x" + word, 1, 7);
+            }
         });
         says("or the text ends too early", () -> {
             for (String text : new String[] {"stop c;", "request c;", "track a c 1;", "train 1 a b a;", "parcel a b 1;",
@@ -286,6 +301,7 @@ final class TextSentences extends Sentences {
             refused(TWO + "close c a;", 4, 32);
             refused(TWO + "close a c;", 4, 34);
             refused("stop abcd;inspect abcde 1;", 4, 18);
+            refused("stop abcd;inspect xabcd 1;", 4, 18);
             refused("stop abcd;inspect abc 1;", 4, 18);
             refused("stop a;inspect b 1;stop b;", 4, 15);
         });
