@@ -11,7 +11,7 @@ public final class MemoryTest {
         }
         Check.fails(63, "restore of an empty slot", BAD_STATE, () -> x.restore(0));
         Check.fails(63, "restore of an empty slot", BAD_STATE, () -> x.restore(1));
-        String first = Snapshot.state(x);
+        String first = Snapshot.brief(x);
         Check.is(62, "save(1)", 4, () -> x.save(1));
         Check.is(65, "save is not remembered", 0, x::undoDepth);
         Check.fails(63, "restore of the other slot", BAD_STATE, () -> x.restore(0));
@@ -20,29 +20,37 @@ public final class MemoryTest {
         x.setInspection(0, 7);
         x.withdraw(1);
         x.pass(3);
-        String later = Snapshot.state(x);
+        String later = Snapshot.brief(x);
         Check.is(62, "save(0)", 9, () -> x.save(0));
         Check.is(63, "restore(1)", 4, () -> x.restore(1));
-        Check.same("the restored state", first, Snapshot.state(x));
+        Check.same("the restored state", first, Snapshot.brief(x));
         x.pass(9);
         x.addParcel(0, 1, 1);
         Check.is(63, "restore(1) keeps its content", 4, () -> x.restore(1));
-        Check.same("the restored state", first, Snapshot.state(x));
+        Check.same("the restored state", first, Snapshot.brief(x));
         Check.is(63, "restore(0)", 9, () -> x.restore(0));
-        Check.same("the restored state", later, Snapshot.state(x));
+        Check.same("the restored state", later, Snapshot.brief(x));
         Check.is(65, "undoDepth", 8, x::undoDepth);
+    }
+
+    private static void slotsOutliveLoad() {
+        ParcelRailway x = new ParcelRailway();
+        x.save(1);
+        String first = Snapshot.brief(x);
+        x.pass(5);
+        String later = Snapshot.brief(x);
         Check.load(x, "stop a;run 3;");
-        String loaded = Snapshot.state(x);
+        String loaded = Snapshot.brief(x);
         Check.is(63, "slots outlive load", 4, () -> x.restore(1));
-        Check.same("the restored state", first, Snapshot.state(x));
-        Check.is(64, "undo of restore", 7, x::undo);
-        Check.same("the state before restore", loaded, Snapshot.state(x));
+        Check.same("the restored state", first, Snapshot.brief(x));
+        Check.is(64, "undo of restore", 2, x::undo);
+        Check.same("the state before restore", loaded, Snapshot.brief(x));
         Check.is(62, "save discards the old content", 3, () -> x.save(1));
         Check.is(63, "restore(1)", 3, () -> x.restore(1));
-        Check.same("the restored state", loaded, Snapshot.state(x));
+        Check.same("the restored state", loaded, Snapshot.brief(x));
         x.undo();
         x.undo();
-        Check.same("the state before load", later, Snapshot.state(x));
+        Check.same("the state before load", later, Snapshot.brief(x));
         Check.is(63, "undo does not change the slots", 3, () -> x.restore(1));
     }
 
@@ -58,14 +66,14 @@ public final class MemoryTest {
         for (int i = 0; i < changes.length; i++) {
             int depth = i;
             Check.is(65, "undoDepth", depth, x::undoDepth);
-            before[i] = Snapshot.state(x);
+            before[i] = Snapshot.brief(x);
             changes[i].run();
         }
         Check.is(65, "undoDepth", 8, x::undoDepth);
         for (int i = changes.length - 1; i >= 0; i--) {
             int left = i;
             Check.is(64, "undo", left, x::undo);
-            Check.same("the state before change " + i, before[i], Snapshot.state(x));
+            Check.same("the state before change " + i, before[i], Snapshot.brief(x));
             Check.is(65, "undoDepth", left, x::undoDepth);
         }
         Check.fails(64, "undo of nothing", BAD_STATE, x::undo);
@@ -149,6 +157,7 @@ public final class MemoryTest {
 
     public static void main(String[] args) {
         slots();
+        slotsOutliveLoad();
         undoing();
         onlyEight();
         refusedCallsAreNotRemembered();

@@ -10,8 +10,11 @@ import java.util.Random;
 
 /** Runs of calls with fixed seeds; every answer of the program is compared with that of the model. */
 public final class RandomTest {
-    private static final int RUNS = 1500;
-    private static final int CALLS = 500;
+    private static final int RUNS = 2000;
+    /** What an object answers after its 512th call is free. */
+    private static final int CALLS = 512;
+    /** Leaves room for allTheSame. */
+    private static final int CALLS_BEFORE_ALL = 170;
     private static final String[] CHANGES = {
         "pass", "pass", "pass", "pass", "pass", "pass", "pass", "addParcel", "addParcel", "setTrackOpen", "setPriority",
         "setInspection", "withdraw", "save", "restore", "undo"};
@@ -160,6 +163,9 @@ public final class RandomTest {
     }
 
     private boolean call(Method m, Object... arguments) {
+        if (calls.size() >= CALLS) {
+            return true;
+        }
         String text = m.getName() + Arrays.toString(arguments);
         calls.add(text);
         String got = answer(pair[0], m.getName(), m.getParameterTypes(), arguments);
@@ -257,7 +263,8 @@ public final class RandomTest {
         for (int run = 0; run < runs && Check.wrongSoFar() < 5; run++) {
             RandomTest test = new RandomTest(first + run);
             boolean right = test.random.nextInt(3) == 0 || test.load(new RandomText(test.random).make());
-            while (right && test.calls.size() < CALLS) {
+            int limit = run % 2 == 0 ? CALLS : CALLS_BEFORE_ALL;
+            while (right && test.calls.size() < limit) {
                 right = test.step();
             }
             if (!right || !test.allTheSame()) {

@@ -5,6 +5,21 @@ final class Snapshot {
     private Snapshot() {
     }
 
+    /**
+     * What changes most, in some twenty-five calls: an object is used for at most 512, which leaves room for three
+     * snapshots of the whole state only.
+     */
+    static String brief(ParcelRailway x) {
+        StringBuilder text = new StringBuilder(some(x));
+        text.append(' ').append(x.trackCount()).append(' ').append(x.trainCount());
+        for (int i = 0; i < 4; i++) {
+            int n = i;
+            text.append('\n').append(answer(() -> x.priority(n))).append(' ').append(answer(() -> x.inspectionTime(n)));
+            text.append(' ').append(answer(() -> x.parcelStation(n))).append(' ').append(answer(() -> x.destination(n)));
+        }
+        return text.append(' ').append(answer(() -> x.isTrackOpen(1, 2) ? 1 : 0)).toString();
+    }
+
     /** Everything that the state answers; no call changes the railway. */
     static String state(ParcelRailway x) {
         StringBuilder text = new StringBuilder();

@@ -76,19 +76,26 @@ final class StateSentences extends Sentences {
         return list;
     }
 
+    private static ParcelRailway passedAndSaved() {
+        ParcelRailway x = new ParcelRailway();
+        x.pass(2);
+        x.save(0);
+        x.pass(3);
+        return x;
+    }
+
     private static void whatTheStateIs() {
         says("The state consists of the clock, the stations, the tracks, the trains, the parcels and all numbers about them.",
                 () -> {
+            String before = Snapshot.state(passedAndSaved());
             for (Named change : changes()) {
-                ParcelRailway x = new ParcelRailway();
-                x.pass(2);
-                x.save(0);
-                x.pass(3);
-                String before = Snapshot.state(x);
-                change.call.accept(x);
-                holds(change.name + " changes the state", false, () -> before.equals(Snapshot.state(x)));
-                x.undo();
-                same("the state after undo of " + change.name, before, Snapshot.state(x));
+                ParcelRailway changed = passedAndSaved();
+                change.call.accept(changed);
+                holds(change.name + " changes the state", false, () -> before.equals(Snapshot.state(changed)));
+                ParcelRailway undone = passedAndSaved();
+                change.call.accept(undone);
+                undone.undo();
+                same("the state after undo of " + change.name, before, Snapshot.state(undone));
             }
             ParcelRailway x = loaded(BUSY);
             checkBusy(x);
