@@ -958,8 +958,9 @@ public final class ParcelRailway {
         }
 
         private void shorten(int from, int to, int minutes) {
-            if (minutes < distanceBetween(from, to)) {
-                distances[from * STATION_LIMIT + to] = minutes;
+            int place = from * STATION_LIMIT + to;
+            if (place >= 0 && place < distances.length && minutes < distances[place]) {
+                distances[place] = minutes;
             }
         }
 
