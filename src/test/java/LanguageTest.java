@@ -43,7 +43,8 @@ import javax.tools.ToolProvider;
 /**
  * The rules of LANGUAGE.md that the compiler's tree of the program shows: how deep calls go, what is made where, which
  * library is used. The program keeps inside narrower bounds than the rules in some places (no recursion, no try, no
- * division of whole numbers); a test that fails there asks to look at the rule, not to give up the plan.
+ * division of whole numbers, nothing made outside constructors and throw); a test that fails there asks to look at the
+ * rule, not to give up the plan.
  */
 public final class LanguageTest {
     private static final Path SOURCE = Path.of("src/main/java/ParcelRailway.java");
